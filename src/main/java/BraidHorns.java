@@ -291,7 +291,7 @@ public final class BraidHorns {
             return notch == 2 || notch == (even ? 3 : 1);
         }
 
-        private static long allTurned(long places) {
+        static long allTurned(long places) {
             long even = places & EVEN_HORNS;
             long odd = places & ODD_HORNS;
             long ahead = (even & ~NOTCH_3) << 1 | (even & NOTCH_3) >>> 3;
@@ -316,7 +316,7 @@ public final class BraidHorns {
         }
 
         /** The notches 0 of the contacts of which both notches are among the places. */
-        private static long meetings(long places, int horns) {
+        static long meetings(long places, int horns) {
             return places & NOTCH_0 & toHornBefore(places & NOTCH_2, horns);
         }
 
@@ -593,7 +593,7 @@ public final class BraidHorns {
             if (leastElls() == 0) {
                 return 3;
             }
-            return Motion.firstMeeting(places, horns(), 1) == NONE ? 0 : 4;
+            return Motion.meetings(Motion.allTurned(places), horns()) == 0 ? 0 : 4;
         }
 
         int changeSetting(int setting, int value) {
@@ -646,7 +646,6 @@ public final class BraidHorns {
             if (steps + wanted > MOST_STEPS) {
                 return NOT_POSSIBLE;
             }
-            reason = 0;
             for (int done = 0; done < wanted; done++) {
                 reason = hindrance();
                 if (reason != 0) {

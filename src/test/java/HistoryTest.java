@@ -4,6 +4,7 @@ final class HistoryTest {
 
     public static void main(String[] args) {
         whatUndoes();
+        oneAfterTheOther();
         sixStates();
         errorsRecordNothing();
         nothingDifferent();
@@ -46,6 +47,43 @@ final class HistoryTest {
         x.undo();
         same("tie", before, x);
         checks.due("23: left", x.count(14), 3);
+    }
+
+    /** Each change behind another one, so that none can find the state before it kept by chance. */
+    private static void oneAfterTheOther() {
+        String[] names = {"set", "carrier", "run", "snap", "tie", "refill", "takeOut", "carryOut", "restore"};
+        for (int last = 0; last < names.length; last++) {
+            for (int first = 0; first < names.length; first++) {
+                BraidHorns x = new BraidHorns();
+                x.save(1);
+                x.carrier(0, 0);
+                x.carrier(2, 0);
+                x.run(2);
+                x.snap(1);
+                change(x, first);
+                int[] before = looks(x);
+                if (change(x, last) >= 0) {
+                    x.undo();
+                }
+                same(names[first] + ", " + names[last], before, x);
+            }
+        }
+    }
+
+    private static int change(BraidHorns x, int change) {
+        switch (change) {
+            case 0: return x.set(BraidHorns.PULL, x.count(11) + 1);
+            case 1: return x.carrier(x.firstFree() / 4, x.firstFree() % 4);
+            case 2: return x.run(1);
+            case 3: return x.snap(0);
+            case 4: return x.tie(1);
+            case 5: return x.refill(0);
+            case 6: return x.takeOut(0);
+            case 7:
+                Checks.write(x, "r1;f0;b0");
+                return x.carryOut();
+            default: return x.restore(1);
+        }
     }
 
     private static int[] looks(BraidHorns x) {

@@ -101,6 +101,11 @@ final class LooksTest {
         x.takeOut(2);
         checks.due("11: around(1)", x.around(1), 4);
         checks.due("11: around(4)", x.around(4), BraidHorns.NO_SUCH);
+        x.carrier(0, 0);
+        checks.due("11: the first place of all", x.around(0), 2);
+        x.takeOut(0);
+        x.carrier(5, 3);
+        checks.due("11: the last place of all", x.around(4), 0);
     }
 
     private static void counting() {
