@@ -179,7 +179,7 @@ public final class BraidHorns {
         keepState();
         int orders = 0;
         int start = 0;
-        while (start < pad.length && carryOutOrder(start) >= 0) {
+        while (orders < PAD_SIZE && start < pad.length && carryOutOrder(start) >= 0) {
             orders++;
             start = pad.nextOrder(start);
         }
