@@ -256,8 +256,8 @@ final class HistoryEdgesTest {
         x.run(1);
         // The carrier is at the notch 0 of the horn 5 then.
         int[] errors = {x.set(0, 4), x.set(3, 3), x.set(1, 10), x.carrier(6, 0), x.carrier(5, 4), x.carrier(5, 0),
-            x.carrier(0, 2), x.takeOut(1), x.run(0), x.run(100), x.snap(1), x.tie(0), x.tie(1), x.refill(1), x.carryOut(),
-            x.restore(0), x.restore(2), x.save(2), x.put(0)};
+            x.carrier(0, 2), x.takeOut(1), x.run(0), x.run(100), x.snap(1), x.tie(0), x.tie(1), x.refill(1),
+            x.carryOut(), x.restore(0), x.restore(2), x.save(2), x.put(0)};
         for (int i = 0; i < errors.length; i++) {
             checks.due("error " + i, errors[i] < 0 ? 1 : 0, 1);
         }

@@ -3,7 +3,8 @@ final class LooksEdgesTest {
     private static final int NO_SUCH = BraidHorns.NO_SUCH;
     private static final int BAD_VALUE = BraidHorns.BAD_VALUE;
     private static final int NONE = BraidHorns.NONE;
-    private static final int[] FAR_OUT = {Integer.MIN_VALUE, Integer.MIN_VALUE + 1, -100, 100, 1 << 30, Integer.MAX_VALUE};
+    private static final int[] FAR_OUT = {Integer.MIN_VALUE, Integer.MIN_VALUE + 1, -100, 100, 1 << 30,
+        Integer.MAX_VALUE};
 
     private static final Checks checks = new Checks();
 
@@ -309,7 +310,7 @@ final class LooksEdgesTest {
     }
 
     private static void countBobbins() {
-        checks.sentence("12: 6 ells that were put on bobbins so far, 7 ells on all bobbins, 8 ells that were spent so far");
+        checks.sentence("12: 6 ells that were put on bobbins so far, 7 ells on all bobbins, 8 that were spent");
         BraidHorns x = Situations.FULL.make();
         int[] counts = {x.count(5), x.count(6), x.count(7), x.count(8)};
         // Eleven carriers and a refill; the one that was taken out was full, ten spent 7 ells each.

@@ -300,7 +300,7 @@ final class OutlookEdgesTest {
     }
 
     private static void firstFreeFirst() {
-        checks.sentence("16: the first of these places, by horns, of one horn by notches. Returns 4 * the horn and the notch");
+        checks.sentence("16: the first of these places, by horns, of one horn by notches");
         for (int pairs = 2; pairs <= 6; pairs++) {
             checks.due("of all", track(pairs).firstFree(), 0);
             checks.due("0 is taken", track(pairs, 0).firstFree(), 1);
@@ -313,7 +313,7 @@ final class OutlookEdgesTest {
     }
 
     private static void firstFreeLast() {
-        checks.sentence("16: the first of these places, by horns, of one horn by notches. Returns 4 * the horn and the notch");
+        checks.sentence("16: the first of these places, by horns, of one horn by notches");
         BraidHorns x = track(2, 2, 3, 6, 5, 10, 11, 14);
         checks.due("the place left of those that go up", x.firstFree(), 13);
         BraidHorns y = track(2, 7, 2, 9, 14, 1, 10, 6);

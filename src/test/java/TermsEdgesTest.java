@@ -49,7 +49,7 @@ final class TermsEdgesTest {
     }
 
     private static void firstErrorInOrder() {
-        checks.sentence("names its errors in the order in which they are checked, the first one that applies is returned");
+        checks.sentence("in the order in which they are checked, and the first one that applies is returned");
         BraidHorns full = Situations.FULL.make();
         int horn = full.of(0, 0);
         int notch = full.of(0, 1);
@@ -190,7 +190,7 @@ final class TermsEdgesTest {
     }
 
     private static void contacts(int pairs) {
-        checks.sentence("The notch 0 of a horn and the notch 2 of the next one make a contact; the number of the first");
+        checks.sentence("The notch 0 of a horn and the notch 2 of the next one make a contact; its number");
         int horns = 2 * pairs;
         for (int horn = 0; horn < horns; horn++) {
             int next = (horn + 1) % horns;
@@ -235,7 +235,7 @@ final class TermsEdgesTest {
     }
 
     private static void turning(int pairs) {
-        checks.sentence("each horn with an even number turns to the next notch, each one with an odd number to the notch ahead");
+        checks.sentence("each horn with an even number turns to the next notch, each one with an odd number ahead");
         for (int horn = 0; horn < 2 * pairs; horn++) {
             for (int notch = 0; notch < 4; notch += 2) {
                 BraidHorns x = withPairs(pairs);

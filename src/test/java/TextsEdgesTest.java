@@ -185,8 +185,8 @@ final class TextsEdgesTest {
 
     private static void faultEndsTooEarly() {
         checks.sentence("if there is none and the text ends too early, it is the length of the text");
-        for (String text : new String[] {"c", "c0", "c1", "c10", "c99", "c0.", "c10.", "x", "r", "b", "k", "f", "r1;", "r10;",
-            "x1;c", "x1;c4", "x1;c4.", "c1.1;"}) {
+        for (String text : new String[] {"c", "c0", "c1", "c10", "c99", "c0.", "c10.", "x", "r", "b", "k", "f", "r1;",
+            "r10;", "x1;c", "x1;c4", "x1;c4.", "c1.1;"}) {
             fault(text, text.length());
         }
     }
@@ -205,7 +205,7 @@ final class TextsEdgesTest {
     }
 
     private static void faultFirst() {
-        checks.sentence("The fault is the index of the first character that cannot stand at its place, from left to right");
+        checks.sentence("the first character that cannot stand at its place when the text is read from left to right");
         fault("r1;q;q", 3);
         fault("qq", 0);
         fault("r00;r00", 2);
@@ -330,7 +330,7 @@ final class TextsEdgesTest {
     }
 
     private static void carryOutMeanings() {
-        checks.sentence("\"c\": carrier(); \"x\": takeOut(); \"r\": run(); \"b\": snap(); \"k\": tie(); \"f\": refill()");
+        checks.sentence("c: carrier(), x: takeOut(), r: run(), b: snap(), k: tie(), f: refill()");
         String[] texts = {"c5.3", "c10.0", "c11.3", "x0", "x9", "r1", "r99", "b0", "b9", "k4", "f0", "f9", "r98;f2"};
         for (String text : texts) {
             BraidHorns x = Situations.FULL.make();
@@ -365,7 +365,8 @@ final class TextsEdgesTest {
 
     private static void carryOutFirstError() {
         checks.sentence("22: up to the first one that returns an error, and empties the pad");
-        String[] errors = {"c6.0", "c99.0", "c0.4", "c0.9", "c0.1", "c1.2", "x2", "x9", "r0", "b2", "b1", "k0", "k2", "f2", "f9"};
+        String[] errors = {"c6.0", "c99.0", "c0.4", "c0.9", "c0.1", "c1.2", "x2", "x9", "r0", "b2", "b1", "k0", "k2",
+            "f2", "f9"};
         for (String error : errors) {
             for (int place = 0; place <= 2; place++) {
                 String[] good = {"f0", "f1"};
