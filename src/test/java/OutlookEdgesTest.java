@@ -228,17 +228,9 @@ final class OutlookEdgesTest {
             int places = 8 * pairs;
             for (int place = 0; place < places; place++) {
                 BraidHorns x = track(pairs, place);
-                int free = 0;
-                int first = NONE;
-                for (int other = places - 1; other >= 0; other--) {
-                    BraidHorns y = track(pairs, place);
-                    if (y.carrier(other / 4, other % 4) == 1 && y.meeting(0) == NONE) {
-                        free++;
-                        first = other;
-                    }
-                }
-                checks.due("beside place " + place, x.free(), free);
-                checks.due("first beside place " + place, x.firstFree(), first);
+                int[] tried = freeByTrying(x);
+                checks.due("beside place " + place, x.free(), tried[0]);
+                checks.due("first beside place " + place, x.firstFree(), tried[1]);
             }
         }
     }
@@ -317,14 +309,8 @@ final class OutlookEdgesTest {
         BraidHorns x = track(2, 2, 3, 6, 5, 10, 11, 14);
         checks.due("the place left of those that go up", x.firstFree(), 13);
         BraidHorns y = track(2, 7, 2, 9, 14, 1, 10, 6);
-        for (int place = 0; place < 16; place++) {
-            boolean good = y.carrier(place / 4, place % 4) >= 0;
-            if (good) {
-                good = y.meeting(0) == NONE;
-                y.undo();
-            }
-            checks.due("place " + place + " by trying", good ? 1 : 0, place == 15 ? 1 : 0);
-        }
+        checks.due("good places, by trying", freeByTrying(y)[0], 1);
+        checks.due("the first one, by trying", freeByTrying(y)[1], 15);
         checks.due("the last place of all", y.firstFree(), 15);
         checks.due("it is the only one", y.free(), 1);
     }
@@ -333,6 +319,39 @@ final class OutlookEdgesTest {
         checks.sentence("16: NONE if there is none");
         checks.due("a carrier at each contact", allUp().firstFree(), NONE);
         checks.due("two that meet", Situations.MEETING.make().firstFree(), NONE);
+        BraidHorns x = track(2, 3, 4, 9, 0, 1, 12, 8, 11);
+        checks.due("eight that go by each other", x.meeting(0), NONE);
+        checks.due("no ninth one", x.firstFree(), NONE);
+        checks.due("none at all", x.free(), 0);
+        // From each place on, carriers are put one by one until no place is left, or ten are there.
+        for (int start = 0; start < 16; start++) {
+            BraidHorns y = track(2, start);
+            int place = y.firstFree();
+            for (int i = 1; i < 10 && place != NONE; i++) {
+                int[] tried = freeByTrying(y);
+                checks.due("free with " + i + " from " + start, y.free(), tried[0]);
+                checks.due("firstFree with " + i + " from " + start, place, tried[1]);
+                y.carrier(place / 4, place % 4);
+                place = y.firstFree();
+            }
+            checks.due("in the end from " + start, place, freeByTrying(y)[1]);
+            checks.due("none is left from " + start, place, NONE);
+        }
+    }
+
+    /** How many places are good, and the first one or NONE, on a track of fewer than ten carriers. */
+    private static int[] freeByTrying(BraidHorns x) {
+        int[] found = {0, NONE};
+        for (int place = 4 * x.count(0) - 1; place >= 0; place--) {
+            if (x.carrier(place / 4, place % 4) >= 0) {
+                if (x.meeting(0) == NONE) {
+                    found[0]++;
+                    found[1] = place;
+                }
+                x.undo();
+            }
+        }
+        return found;
     }
 
     private static void periodNoCarrier() {
