@@ -4,6 +4,8 @@ import java.lang.reflect.Method;
 import java.lang.reflect.Modifier;
 import java.nio.file.Files;
 import java.nio.file.Path;
+import java.util.ArrayList;
+import java.util.List;
 import java.util.Set;
 import java.util.TreeSet;
 import java.util.regex.Matcher;
@@ -22,6 +24,7 @@ final class FaceTest {
         constants();
         members();
         names();
+        sizes();
         words();
         anyArguments();
         checks.end();
@@ -71,6 +74,25 @@ final class FaceTest {
             checks.due(inside + " is static", Modifier.isStatic(inside.getModifiers()) ? 1 : 0, 1);
             for (Method method : inside.getDeclaredMethods()) {
                 checks.due(method + " bears a public name", face.contains(method.getName()) ? 1 : 0, 0);
+            }
+        }
+    }
+
+    /** Rules 5 and 11: static fields are final, parameters are seven at most, fields some twenty, classes twelve. */
+    private static void sizes() {
+        List<Class<?>> types = new ArrayList<>(List.of(BraidHorns.class.getDeclaredClasses()));
+        types.add(BraidHorns.class);
+        checks.due("more than twelve classes", types.size() > 12 ? 1 : 0, 0);
+        for (Class<?> type : types) {
+            int own = 0;
+            for (Field field : type.getDeclaredFields()) {
+                boolean isStatic = Modifier.isStatic(field.getModifiers());
+                own += isStatic ? 0 : 1;
+                checks.due(field + " can be changed", isStatic && !Modifier.isFinal(field.getModifiers()) ? 1 : 0, 0);
+            }
+            checks.due("more than twenty fields in " + type, own > 20 ? 1 : 0, 0);
+            for (Method method : type.getDeclaredMethods()) {
+                checks.due("parameters of " + method, method.getParameterCount() > 7 ? 1 : 0, 0);
             }
         }
     }
